@@ -163,18 +163,18 @@ public final class SweptGates {
         if (!circuit.hasOutPair(i)) {
             return refuse(BAD);
         }
-        return pairIsAlike(i) ? 1 : 0;
+        return circuit.pairIsAlikeBy(sweepNow(), i) ? 1 : 0;
     }
 
     public int witness(int i) {
         if (!circuit.hasOutPair(i)) {
             return refuse(BAD);
         }
-        return pairIsAlike(i) ? NONE : leastRow(circuit.pairDifference(i));
+        return circuit.pairIsAlikeBy(sweepNow(), i) ? NONE : leastRow(circuit.pairDifference(i));
     }
 
     public int verdict() {
-        return verdictNow();
+        return circuit.verdictBy(sweepNow());
     }
 
     // ---- texts
@@ -233,7 +233,7 @@ public final class SweptGates {
             h = 31 * circuit.digestNode(h, g) + now.forms[g];
         }
         h = circuit.digestOuts(h);
-        return 31 * now.digestOn(h) + verdictNow();
+        return 31 * now.digestOn(h) + circuit.verdictBy(now);
     }
 
     // ---- what the calls share
@@ -279,23 +279,6 @@ public final class SweptGates {
             sweepIsOld = false;
         }
         return sweep;
-    }
-
-    private boolean pairIsAlike(int i) {
-        Sweep now = sweepNow();
-        return now.formOf(circuit.outOf(0, i)) == now.formOf(circuit.outOf(1, i));
-    }
-
-    private int verdictNow() {
-        if (circuit.outCounts[0] != circuit.outCounts[1]) {
-            return NONE;
-        }
-        for (int i = 0; i < circuit.outCounts[0]; i++) {
-            if (!pairIsAlike(i)) {
-                return 0;
-            }
-        }
-        return 1;
     }
 
     private int toldOf(int what) {
@@ -403,6 +386,22 @@ public final class SweptGates {
 
         int pairDifference(int i) {
             return truthOf(outOf(0, i)) ^ truthOf(outOf(1, i));
+        }
+
+        boolean pairIsAlikeBy(Sweep swept, int i) {
+            return swept.formOf(outOf(0, i)) == swept.formOf(outOf(1, i));
+        }
+
+        int verdictBy(Sweep swept) {
+            if (outCounts[0] != outCounts[1]) {
+                return NONE;
+            }
+            for (int i = 0; i < outCounts[0]; i++) {
+                if (!pairIsAlikeBy(swept, i)) {
+                    return 0;
+                }
+            }
+            return 1;
         }
 
         int countOf(int what) {
@@ -666,24 +665,17 @@ public final class SweptGates {
 
         int formByChecks(int g, Circuit circuit) {
             for (int k = 0; k < g; k++) {
-                if (reasons[k] == KEPT) {
-                    int form = formByNode(k, circuit.truths[g] ^ circuit.truths[k]);
-                    if (form != NONE) {
-                        return form;
-                    }
+                if (reasons[k] != KEPT) {
+                    continue;
                 }
-            }
-            return NONE;
-        }
-
-        /** One KEPT NODE's turn: the LITERAL of it that a GATE so different from it is, or NONE. */
-        int formByNode(int k, int difference) {
-            if ((difference & patternRows) == 0 && checkHolds(difference)) {
-                return 2 * k;
-            }
-            // The first CHECK's own ROW turns the SIGNS, if there was no PATTERN before it.
-            if (patternRows != 0 && (difference & patternRows) == patternRows && checkHolds(~difference & allRows)) {
-                return 2 * k + 1;
+                int difference = circuit.truths[g] ^ circuit.truths[k];
+                if ((difference & patternRows) == 0 && checkHolds(difference)) {
+                    return 2 * k;
+                }
+                // Behind a CHECK that failed this is so only if its own ROW is the first PATTERN of all.
+                if ((difference & patternRows) == patternRows && checkHolds(~difference & allRows)) {
+                    return 2 * k + 1;
+                }
             }
             return NONE;
         }

@@ -29,6 +29,16 @@ final class Check {
         holds(what + " left all else as it was", Seen.sameBehindRefusals(before, after));
     }
 
+    /** A call by its name that must be refused as BAD. */
+    void bad(SweptGates x, String name, int... v) {
+        long[] seen = Seen.of(x);
+        StringBuilder told = new StringBuilder(name);
+        for (int i : v) {
+            told.append(' ').append(i);
+        }
+        refused(told.toString(), x, Caller.call(x, name, v), SweptGates.BAD, seen);
+    }
+
     boolean anyWrong() {
         return !wrong.isEmpty();
     }
