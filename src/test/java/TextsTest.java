@@ -57,19 +57,28 @@ public final class TextsTest {
         CHECK.due("25: the old ones are gone", x.does(), -11);
     }
 
-    private static void fault(String text, int place) {
+    /** A does() that does nothing: its answer, and that all stays as it was, how often refused too. */
+    private static void nothingDone(String text, int answer) {
         SweptGates x = new SweptGates();
         x.gate(2, 4);
-        x.out(0, 8);
+        x.out(1, 8);
         x.pattern(3);
         typed(x, text);
         long[] seen = Seen.of(x);
-        CHECK.due("26: does() of '" + text + "'", x.does(), -10 - place);
+        CHECK.due("26: does() of '" + text + "'", x.does(), answer);
         long[] after = Seen.of(x);
         for (int i = 0; i < 5; i++) {
             CHECK.due("26: then told(" + i + ")", after[i], seen[i]);
         }
         CHECK.holds("26: '" + text + "' changes nothing", Seen.sameCircuit(seen, after));
+    }
+
+    private static void fault(String text, int place) {
+        nothingDone(text, -10 - place);
+    }
+
+    private static void orderRefused(String text, int order) {
+        nothingDone(text, -1000 - order);
     }
 
     private static void faults() {
@@ -118,22 +127,6 @@ public final class TextsTest {
         CHECK.holds("26: each as its call", Seen.sameCircuit(Seen.of(x), Seen.of(y)));
         CHECK.due("26: all go back at once", x.back(), 0);
         CHECK.holds("26: to the first", Seen.sameCircuit(Seen.of(x), Seen.of(new SweptGates())));
-    }
-
-    private static void orderRefused(String text, int order) {
-        SweptGates x = new SweptGates();
-        x.gate(2, 4);
-        x.out(1, 8);
-        x.pattern(3);
-        x.verdict();
-        typed(x, text);
-        long[] seen = Seen.of(x);
-        CHECK.due("26: does() of '" + text + "'", x.does(), -1000 - order);
-        long[] after = Seen.of(x);
-        for (int i = 0; i < 5; i++) {
-            CHECK.due("26: then told(" + i + ")", after[i], seen[i]);
-        }
-        CHECK.holds("26: '" + text + "' changes nothing", Seen.sameCircuit(seen, after));
     }
 
     private static void ordersRefused() {
