@@ -18,27 +18,6 @@ final class Check {
         }
     }
 
-    /** A refused call: its answer, how often it counts, and that all else stays as it was. */
-    void refused(String what, SweptGates x, long got, int why, long[] before) {
-        due(what, got, why);
-        long[] after = Seen.of(x);
-        int counter = why == SweptGates.BAD ? 0 : why == SweptGates.NO ? 1 : 2;
-        for (int i = 0; i < 3; i++) {
-            due(what + " then told(" + i + ")", after[i], before[i] + (i == counter ? 1 : 0));
-        }
-        holds(what + " left all else as it was", Seen.sameBehindRefusals(before, after));
-    }
-
-    /** A call by its name that must be refused as BAD. */
-    void bad(SweptGates x, String name, int... v) {
-        long[] seen = Seen.of(x);
-        StringBuilder told = new StringBuilder(name);
-        for (int i : v) {
-            told.append(' ').append(i);
-        }
-        refused(told.toString(), x, Caller.call(x, name, v), SweptGates.BAD, seen);
-    }
-
     boolean anyWrong() {
         return !wrong.isEmpty();
     }

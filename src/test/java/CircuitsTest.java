@@ -1,24 +1,16 @@
 /** Promises 1 to 8: a new object, and the calls that make circuits. */
 public final class CircuitsTest {
     private static final Check CHECK = new Check();
-    private static final int[] NO_LITERALS = {-1, -2, 8, 9, Integer.MIN_VALUE, Integer.MAX_VALUE, 1 << 30};
 
     public static void main(String[] args) {
         newObject();
         inputs();
-        inputsRefused();
         inputsForgetAll();
         gate();
-        gateRefused();
-        gateFull();
         xor();
         mux();
-        threeGatesFull();
-        threeGatesRefused();
         out();
-        outRefused();
         pattern();
-        patternRefused();
         settlesMerged();
         settlesOutsAndPatterns();
         settlesOrdersLiterals();
@@ -53,24 +45,11 @@ public final class CircuitsTest {
             CHECK.due("2: NODES", x.count(1), v + 1);
             CHECK.due("2: TRUE over n " + v, x.table(1), v == 5 ? -1 : (1L << (1 << v)) - 1);
             CHECK.due("2: the last ROW is there", x.pattern((1 << v) - 1), 1);
-            long[] seen = Seen.of(x);
-            CHECK.refused("2: the ROW behind it is not", x, x.pattern(1 << v), SweptGates.BAD, seen);
             before = v;
         }
         SweptGates same = new SweptGates();
         CHECK.due("2: inputs(3) at first", same.inputs(3), 3);
         CHECK.due("2: leaves a STATE though all is as it was", same.told(4), 1);
-    }
-
-    private static void inputsRefused() {
-        for (int v : new int[] {0, 6, -1, 32, Integer.MIN_VALUE, Integer.MAX_VALUE}) {
-            SweptGates x = new SweptGates();
-            x.gate(2, 4);
-            x.out(0, 8);
-            x.pattern(3);
-            long[] seen = Seen.of(x);
-            CHECK.refused("2: inputs(" + v + ")", x, x.inputs(v), SweptGates.BAD, seen);
-        }
     }
 
     private static void inputsForgetAll() {
@@ -106,34 +85,6 @@ public final class CircuitsTest {
         CHECK.due("3: STATES", x.told(4), 3);
     }
 
-    private static void gateRefused() {
-        for (int l : NO_LITERALS) {
-            SweptGates x = new SweptGates();
-            long[] seen = Seen.of(x);
-            CHECK.refused("3: gate(" + l + ", 2)", x, x.gate(l, 2), SweptGates.BAD, seen);
-            seen = Seen.of(x);
-            CHECK.refused("3: gate(2, " + l + ")", x, x.gate(2, l), SweptGates.BAD, seen);
-        }
-    }
-
-    private static SweptGates withNodes(int nodes) {
-        SweptGates x = new SweptGates();
-        for (int g = 4; g < nodes; g++) {
-            x.gate(2 * g - 2, 2 * g - 4);
-        }
-        return x;
-    }
-
-    private static void gateFull() {
-        SweptGates x = withNodes(47);
-        CHECK.due("3: the 48th NODE", x.gate(2, 4), 94);
-        CHECK.due("3: 48 NODES", x.count(1), 48);
-        long[] seen = Seen.of(x);
-        CHECK.refused("3: the 49th", x, x.gate(2, 4), SweptGates.FULL, seen);
-        seen = Seen.of(x);
-        CHECK.refused("3: BAD goes first", x, x.gate(96, 4), SweptGates.BAD, seen);
-    }
-
     private static void xor() {
         SweptGates x = new SweptGates();
         CHECK.due("4: xor(2, 7)", x.xor(2, 7), 13);
@@ -160,37 +111,6 @@ public final class CircuitsTest {
         CHECK.due("5: all three go", x.count(1), 4);
     }
 
-    private static void threeGatesFull() {
-        CHECK.due("4: from 45 NODES to 48", withNodes(45).xor(2, 4), 95);
-        CHECK.due("5: from 45 NODES to 48", withNodes(45).mux(2, 4, 6), 95);
-        for (int nodes = 46; nodes <= 48; nodes++) {
-            SweptGates x = withNodes(nodes);
-            long[] seen = Seen.of(x);
-            CHECK.refused("4: xor at " + nodes, x, x.xor(2, 4), SweptGates.FULL, seen);
-            seen = Seen.of(x);
-            CHECK.refused("5: mux at " + nodes, x, x.mux(2, 4, 6), SweptGates.FULL, seen);
-        }
-        SweptGates x = withNodes(48);
-        CHECK.due("4: BAD goes first", x.xor(2, 96), SweptGates.BAD);
-        CHECK.due("5: BAD goes first", x.mux(2, 4, 96), SweptGates.BAD);
-    }
-
-    private static void threeGatesRefused() {
-        for (int l : NO_LITERALS) {
-            for (int place = 0; place < 3; place++) {
-                SweptGates x = new SweptGates();
-                int[] v = {2, 4, 6};
-                v[place] = l;
-                long[] seen = Seen.of(x);
-                CHECK.refused("5: mux with " + l, x, x.mux(v[0], v[1], v[2]), SweptGates.BAD, seen);
-                if (place < 2) {
-                    seen = Seen.of(x);
-                    CHECK.refused("4: xor with " + l, x, x.xor(v[0], v[1]), SweptGates.BAD, seen);
-                }
-            }
-        }
-    }
-
     private static void out() {
         SweptGates x = new SweptGates();
         for (int i = 0; i < 6; i++) {
@@ -201,23 +121,7 @@ public final class CircuitsTest {
         CHECK.due("6: OUTS of SIDE 1", x.count(3), 6);
         CHECK.due("6: the OUT", x.outs(0, 0), 7);
         CHECK.due("6: the last OUT", x.outs(1, 5), 5);
-        long[] seen = Seen.of(x);
-        CHECK.refused("6: the 7th", x, x.out(1, 2), SweptGates.FULL, seen);
-        CHECK.due("6: BAD goes first", x.out(1, 8), SweptGates.BAD);
         CHECK.due("6: SIDE 0 still takes", x.out(0, 7), 1);
-    }
-
-    private static void outRefused() {
-        for (int s : new int[] {-1, 2, Integer.MIN_VALUE, Integer.MAX_VALUE}) {
-            SweptGates x = new SweptGates();
-            long[] seen = Seen.of(x);
-            CHECK.refused("6: out(" + s + ", 2)", x, x.out(s, 2), SweptGates.BAD, seen);
-        }
-        for (int l : NO_LITERALS) {
-            SweptGates x = new SweptGates();
-            long[] seen = Seen.of(x);
-            CHECK.refused("6: out(0, " + l + ")", x, x.out(0, l), SweptGates.BAD, seen);
-        }
     }
 
     private static void pattern() {
@@ -227,17 +131,6 @@ public final class CircuitsTest {
         }
         CHECK.due("7: PATTERNS told", x.count(4), 12);
         CHECK.due("7: told twice, kept twice, in their order", x.sign(1), 0b100001111000);
-        long[] seen = Seen.of(x);
-        CHECK.refused("7: the 13th", x, x.pattern(0), SweptGates.FULL, seen);
-        CHECK.due("7: BAD goes first", x.pattern(8), SweptGates.BAD);
-    }
-
-    private static void patternRefused() {
-        for (int r : new int[] {-1, 8, 32, Integer.MIN_VALUE, Integer.MAX_VALUE}) {
-            SweptGates x = new SweptGates();
-            long[] seen = Seen.of(x);
-            CHECK.refused("7: pattern(" + r + ")", x, x.pattern(r), SweptGates.BAD, seen);
-        }
     }
 
     /** and, the same once more, and a GATE of both that is a rule's. */

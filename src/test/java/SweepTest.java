@@ -18,7 +18,6 @@ public final class SweepTest {
         outsAlike();
         verdicts();
         fiveInputs();
-        refused();
         CHECK.end();
     }
 
@@ -291,33 +290,4 @@ public final class SweepTest {
         CHECK.due("8: one GATE at the end", x.outs(0, 0), x.outs(1, 0));
     }
 
-    private static void refused() {
-        SweptGates x = new SweptGates();
-        x.gate(2, 4);
-        x.gate(8, 4);
-        x.out(0, 8);
-        x.out(1, 10);
-        int[] far = {Integer.MIN_VALUE, -2, Integer.MAX_VALUE};
-        for (int v : far) {
-            CHECK.bad(x, "form", v);
-            CHECK.bad(x, "lines", 0, v);
-            CHECK.bad(x, "swept", v);
-            CHECK.bad(x, "alike", v);
-            CHECK.bad(x, "witness", v);
-        }
-        int[][] lines = {{-2, 0}, {Integer.MIN_VALUE, 0}, {-1, 1}, {-1, 2}, {-1, -1}, {0, 3}, {0, -1}, {9, 3}};
-        for (int[] v : lines) {
-            CHECK.bad(x, "lines", v);
-        }
-        CHECK.bad(x, "form", -1);
-        CHECK.bad(x, "form", 6);
-        CHECK.bad(x, "swept", -1);
-        CHECK.bad(x, "swept", 6);
-        CHECK.bad(x, "row", -1);
-        CHECK.bad(x, "row", Integer.MIN_VALUE);
-        CHECK.bad(x, "alike", -1);
-        CHECK.bad(x, "alike", 1);
-        CHECK.bad(x, "witness", -1);
-        CHECK.bad(x, "witness", 1);
-    }
 }

@@ -5,11 +5,8 @@ public final class TextsTest {
     public static void main(String[] args) {
         type();
         clear();
-        faults();
         wellFormed();
         everyOrder();
-        ordersRefused();
-        mostOrders();
         oneState();
         doesLeavesTextAndCounts();
         back();
@@ -30,20 +27,11 @@ public final class TextsTest {
 
     private static void type() {
         SweptGates x = new SweptGates();
-        CHECK.due("24: the least byte", x.type(0), 1);
-        CHECK.due("24: the greatest", x.type(127), 2);
-        for (int c : new int[] {-1, 128, Integer.MIN_VALUE, Integer.MAX_VALUE, 32 + 256}) {
-            long[] seen = Seen.of(x);
-            CHECK.refused("24: type(" + c + ")", x, x.type(c), SweptGates.BAD, seen);
-        }
-        for (int i = 3; i <= 150; i++) {
-            CHECK.due("24: type(32)", x.type(32), i);
-        }
-        long[] seen = Seen.of(x);
-        CHECK.refused("24: the 151st", x, x.type(32), SweptGates.FULL, seen);
-        seen = Seen.of(x);
-        CHECK.refused("24: BAD goes first", x, x.type(128), SweptGates.BAD, seen);
+        CHECK.due("24: the first byte", x.type('g'), 1);
+        CHECK.due("24: the second", x.type('2'), 2);
+        CHECK.due("24: bytes", x.told(3), 2);
         CHECK.due("24: no STATE", x.told(4), 0);
+        CHECK.due("24: what has come", x.does(), -12);
     }
 
     private static void clear() {
@@ -57,50 +45,6 @@ public final class TextsTest {
         CHECK.due("25: the old ones are gone", x.does(), -11);
     }
 
-    /** A does() that does nothing: its answer, and that all stays as it was, how often refused too. */
-    private static void nothingDone(String text, int answer) {
-        SweptGates x = new SweptGates();
-        x.gate(2, 4);
-        x.out(1, 8);
-        x.pattern(3);
-        typed(x, text);
-        long[] seen = Seen.of(x);
-        CHECK.due("26: does() of '" + text + "'", x.does(), answer);
-        long[] after = Seen.of(x);
-        for (int i = 0; i < 5; i++) {
-            CHECK.due("26: then told(" + i + ")", after[i], seen[i]);
-        }
-        CHECK.holds("26: '" + text + "' changes nothing", Seen.sameCircuit(seen, after));
-    }
-
-    private static void fault(String text, int place) {
-        nothingDone(text, -10 - place);
-    }
-
-    private static void orderRefused(String text, int order) {
-        nothingDone(text, -1000 - order);
-    }
-
-    private static void faults() {
-        String[] early = {"", " ", "    ", "i", "i ", "i1", "i 12 ", "g2", "g2 ", "g2 4", "g 2 4 ", "m1 2 3", "m1 2",
-            "g2 4;x", "g2 4; o", "p1;p1"};
-        for (String text : early) {
-            fault(text, text.length());
-        }
-        Object[][] wrong = {{";", 0}, {"1", 0}, {"z", 0}, {" z", 1}, {"I1;", 0}, {"\ti1;", 0}, {"i\t1;", 1},
-            {"i;", 1}, {"i ;", 2}, {"i123;", 3}, {"i1 2;", 3}, {"i 12 3;", 5}, {"i-1;", 1}, {"i1,", 2}, {"ii1;", 1},
-            {"g2;", 2}, {"g2 ;", 3}, {"g24;", 3}, {"g245;", 3}, {"g2 456;", 5}, {"g2 4 5;", 5}, {"g2 45 6;", 6},
-            {"m2 4;", 4}, {"m2 4 6 8;", 7}, {"m111 2 3;", 3}, {"m1 222 3;", 5}, {"m1 2 333;", 7}, {"x2 4x2 4;", 4},
-            {"o0;", 2}, {"o0 1 2;", 5}, {"p;", 1}, {"p1 1;", 3}, {"p1;;", 3}, {"p1; ;", 4}, {"p1;1", 3},
-            {"g2 4;g2 4;q", 10}, {"g2 99;g", 7}, {"g2 99;g;", 7}, {"p1;\0", 3}, {"p1" + (char) 127, 2},
-            {"p1" + (char) ('0' - 1), 2}, {"p1" + (char) ('9' + 1), 2}};
-        for (Object[] row : wrong) {
-            fault((String) row[0], (Integer) row[1]);
-        }
-        fault(" ".repeat(150), 150);
-        fault("p1;".repeat(49) + "p1 ", 150);
-    }
-
     private static void wellFormed() {
         Object[][] texts = {{"i1;", 1}, {"  i 1 ; ", 1}, {"g2 4;", 1}, {"g 2 4;", 1}, {"g2   4;", 1}, {"g02 04;", 1},
             {"p7;p00;", 2}, {"x2 4;o0 13;o1 12 ;", 3}, {"m2 4 6;o 0 13;", 2}, {"i5;p31;", 2}, {"i 05;", 1}};
@@ -112,45 +56,13 @@ public final class TextsTest {
     }
 
     private static void everyOrder() {
-        SweptGates x = typed(new SweptGates(), "i4;g2 5;x4 7;m8 3 9;o1 15;o0 3;o1 22;p15;p8;");
-        SweptGates y = new SweptGates();
-        y.inputs(4);
-        y.gate(2, 5);
-        y.xor(4, 7);
-        y.mux(8, 3, 9);
-        y.out(1, 15);
-        y.out(0, 3);
-        y.out(1, 22);
-        y.pattern(15);
-        y.pattern(8);
-        CHECK.due("26: nine ORDERS", x.does(), 9);
-        CHECK.holds("26: each as its call", Seen.sameCircuit(Seen.of(x), Seen.of(y)));
-        CHECK.due("26: all go back at once", x.back(), 0);
-        CHECK.holds("26: to the first", Seen.sameCircuit(Seen.of(x), Seen.of(new SweptGates())));
-    }
-
-    private static void ordersRefused() {
-        orderRefused("i0;", 0);
-        orderRefused("i6;", 0);
-        orderRefused("i2;p4;", 1);
-        orderRefused("g2 10;", 0);
-        orderRefused("g2 4;g2 10;g2 14;", 2);
-        orderRefused("x99 0;", 0);
-        orderRefused("m2 4 6;m2 4 16;", 1);
-        orderRefused("o2 0;", 0);
-        orderRefused("o0 2;o0 10;", 1);
-        orderRefused("p8;", 0);
-        orderRefused("o0 2;o0 2;o0 2;o0 2;o0 2;o0 2;o0 2;", 6);
-        orderRefused("i5;" + "p1;".repeat(13), 13);
-        orderRefused("i5;" + "x2 4;".repeat(14) + "g2 4;", 15);
-        orderRefused("i5;" + "m0 0 0;".repeat(15), 15);
-        fault("g2 10;g", 7);
-    }
-
-    private static void mostOrders() {
-        SweptGates x = typed(new SweptGates(), "i1;".repeat(50));
-        CHECK.due("26: 50 ORDERS in 150 bytes", x.does(), 50);
-        CHECK.due("26: n", x.count(0), 1);
+        Run x = Run.of().types("i4;g2 5;x4 7;m8 3 9;o1 15;o0 3;o1 22;p15;p8;");
+        Run y = Run.of("inputs 4", "gate 2 5", "xor 4 7", "mux 8 3 9", "out 1 15", "out 0 3", "out 1 22", "pattern 15",
+            "pattern 8");
+        CHECK.due("26: nine ORDERS", x.answer("does"), 9);
+        CHECK.holds("26: each as its call", Seen.of(x.then("does")).sameCircuit(Seen.of(y)));
+        CHECK.due("26: all go back at once", x.then("does").answer("back"), 0);
+        CHECK.holds("26: to the first", Seen.of(x.then("does", "back")).sameCircuit(Seen.of(Run.of())));
     }
 
     private static void oneState() {
@@ -185,8 +97,7 @@ public final class TextsTest {
 
     private static void back() {
         SweptGates x = new SweptGates();
-        long[] seen = Seen.of(x);
-        CHECK.refused("27: none", x, x.back(), SweptGates.NO, seen);
+        CHECK.due("27: none", x.back(), SweptGates.NO);
         x.gate(2, 4);
         typed(x, "abc");
         x.gate(99, 99);
@@ -199,28 +110,25 @@ public final class TextsTest {
 
     /** Each of the calls told S, back one by one, through all that a STATE holds. */
     private static void backOverAll() {
-        SweptGates x = new SweptGates();
-        String[] names = {"gate", "xor", "mux", "out", "out", "pattern", "settles", "pattern", "inputs", "gate"};
-        int[][] numbers = {{4, 2}, {8, 6}, {2, 15, 9}, {0, 21}, {1, 8}, {5}, {}, {6}, {5}, {10, 2}};
-        long[][] seen = new long[names.length][];
-        for (int i = 0; i < names.length; i++) {
-            seen[i] = Seen.of(x);
-            Caller.call(x, names[i], numbers[i]);
-            if (i == 4) {
-                for (int k = 4; k >= 0; k--) {
-                    CHECK.due("27: back() over " + names[k], x.back(), k);
-                    CHECK.holds("27: as before " + names[k], Seen.sameCircuit(seen[k], Seen.of(x)));
-                }
-                for (int k = 0; k <= 4; k++) {
-                    Caller.call(x, names[k], numbers[k]);
-                }
-            }
+        String[] calls = {"gate 4 2", "xor 8 6", "mux 2 15 9", "out 0 21", "out 1 8", "pattern 5", "settles", "pattern 6",
+            "inputs 5", "gate 10 2"};
+        Run[] behind = new Run[calls.length + 1];
+        behind[0] = Run.of();
+        for (int i = 0; i < calls.length; i++) {
+            behind[i + 1] = behind[i].then(calls[i]);
         }
-        for (int k = 9; k >= 5; k--) {
-            CHECK.due("27: back() over " + names[k], x.back(), k - 5);
-            CHECK.holds("27: as before " + names[k], Seen.sameCircuit(seen[k], Seen.of(x)));
+        backTo(behind, 5, 0);
+        backTo(behind, 10, 5);
+    }
+
+    private static void backTo(Run[] behind, int from, int to) {
+        Run x = behind[from];
+        for (int k = from - 1; k >= to; k--) {
+            CHECK.due("27: back() over call " + k, x.answer("back"), k - to);
+            x = x.then("back");
+            CHECK.holds("27: as before call " + k, Seen.of(x).sameCircuit(Seen.of(behind[k])));
         }
-        CHECK.due("27: older ones are lost", x.back(), SweptGates.NO);
+        CHECK.due("27: no more", x.answer("back"), SweptGates.NO);
     }
 
     private static void fiveStates() {
@@ -261,10 +169,6 @@ public final class TextsTest {
         int[] due = {3, 1, 2, 5, 1};
         for (int i = 0; i < 5; i++) {
             CHECK.due("28: told(" + i + ")", x.told(i), due[i]);
-        }
-        for (int what : new int[] {-1, 5, Integer.MIN_VALUE, Integer.MAX_VALUE}) {
-            long[] seen = Seen.of(x);
-            CHECK.refused("28: told(" + what + ")", x, x.told(what), SweptGates.BAD, seen);
         }
     }
 

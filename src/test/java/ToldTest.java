@@ -1,7 +1,6 @@
 /** Promises 9 to 16: what is told of NODES, LITERALS, OUTS and PATTERNS. */
 public final class ToldTest {
     private static final Check CHECK = new Check();
-    private static final int[] FAR = {Integer.MIN_VALUE, -1, Integer.MAX_VALUE, 1 << 30, 1 << 31 >> 1};
 
     public static void main(String[] args) {
         of();
@@ -13,7 +12,6 @@ public final class ToldTest {
         outs();
         count();
         sign();
-        refused();
         CHECK.end();
     }
 
@@ -165,34 +163,4 @@ public final class ToldTest {
         CHECK.due("16: which do not tell here", x.sign(7), 0b11111);
     }
 
-    private static void refused() {
-        for (int far : FAR) {
-            SweptGates x = some();
-            CHECK.bad(x, "of", far, 0);
-            CHECK.bad(x, "of", 4, far);
-            CHECK.bad(x, "table", far);
-            CHECK.bad(x, "at", far, 0);
-            CHECK.bad(x, "at", 2, far);
-            CHECK.bad(x, "depth", far);
-            CHECK.bad(x, "cone", far);
-            CHECK.bad(x, "outs", far, 0);
-            CHECK.bad(x, "count", far);
-            CHECK.bad(x, "sign", far);
-        }
-        SweptGates x = some();
-        int[][] gates = {{0, 0}, {3, 0}, {8, 0}, {4, 2}};
-        for (int[] v : gates) {
-            CHECK.bad(x, "of", v);
-        }
-        for (String name : new String[] {"table", "depth", "cone"}) {
-            CHECK.bad(x, name, 16);
-        }
-        CHECK.bad(x, "at", 16, 0);
-        CHECK.bad(x, "at", 15, 8);
-        CHECK.bad(x, "outs", 2, 0);
-        CHECK.bad(x, "outs", 0, -1);
-        CHECK.bad(x, "outs", 1, Integer.MIN_VALUE);
-        CHECK.bad(x, "count", 5);
-        CHECK.bad(x, "sign", 8);
-    }
 }
