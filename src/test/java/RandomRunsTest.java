@@ -187,7 +187,11 @@ public final class RandomRunsTest {
         return t.toString();
     }
 
+    /** A text may go on behind the last call that the document allows: what is answered there is free. */
     private void both(String name, int... v) {
+        if (calls >= CALLS) {
+            return;
+        }
         calls++;
         long want = model.call(name, v);
         long got = Caller.call(x, name, v);
