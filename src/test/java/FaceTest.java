@@ -4,112 +4,131 @@ import java.lang.reflect.Field;
 import java.lang.reflect.Method;
 import java.lang.reflect.Modifier;
 import java.nio.file.Files;
-import java.nio.file.Path;
+import java.util.List;
 import java.util.Set;
 import java.util.TreeSet;
 import java.util.regex.Matcher;
 import java.util.regex.Pattern;
 
-/** The public face, and the rules of LANGUAGE.md that can be seen by reading. The program's path is the argument. */
+/** "The public face": each constant, the constructor, each method with its types, as the document writes them. */
 public final class FaceTest {
     private static final Check CHECK = new Check();
-    private static final String[] FACE = {
-        "int inputs 1", "int gate 2", "int xor 2", "int mux 3", "int out 2", "int pattern 1", "int settles 0",
-        "int of 2", "int table 1", "int at 2", "int depth 1", "int cone 1", "int outs 2", "int count 1", "int sign 1",
-        "int form 1", "int lines 2", "int swept 1", "int row 1", "int alike 1", "int witness 1", "int verdict 0",
-        "int type 1", "int clear 0", "int does 0", "int back 0", "int told 1", "long digest 0"};
+    private static final String[][] GROUPS = {
+        {"circuits", "inputs", "gate", "xor", "mux", "out", "pattern", "settles"},
+        {"what is told", "of", "table", "at", "depth", "cone", "outs", "count", "sign"},
+        {"the sweep", "form", "lines", "swept", "row", "alike", "witness", "verdict"},
+        {"texts", "type", "clear", "does", "back", "told", "digest"}};
 
-    public static void main(String[] args) throws IOException {
+    public static void main(String[] args) throws IOException, IllegalAccessException {
+        CHECK.due("lines of the document's face", Document.face().size(), 30);
+        CHECK.due("methods of the document's face", Document.methods().size(), 28);
         constants();
-        face();
-        classesInside();
-        source(args.length > 0 ? args[0] : "src/main/java/SweptGates.java");
+        constructor();
+        methods();
+        namesOfPrivateMethods();
+        asWritten();
+        groups();
         CHECK.end();
     }
 
-    private static void constants() {
-        CHECK.due("NONE", SweptGates.NONE, -1);
-        CHECK.due("BAD", SweptGates.BAD, -2);
-        CHECK.due("NO", SweptGates.NO, -3);
-        CHECK.due("FULL", SweptGates.FULL, -4);
+    private static void constants() throws IOException, IllegalAccessException {
+        Set<String> due = new TreeSet<>();
+        Matcher told = Pattern.compile("(\\w+) = (-?\\d+)").matcher(Document.face().get(0));
+        while (told.find()) {
+            due.add("int " + told.group());
+        }
         Set<String> seen = new TreeSet<>();
         for (Field f : SweptGates.class.getDeclaredFields()) {
-            if (Modifier.isStatic(f.getModifiers())) {
-                CHECK.holds("rule 5: static " + f.getName() + " is final", Modifier.isFinal(f.getModifiers()));
-            }
-            if (!Modifier.isPrivate(f.getModifiers())) {
-                CHECK.holds("rule 1: " + f.getName() + " is public", Modifier.isPublic(f.getModifiers()));
-                seen.add(f.getName());
+            int how = f.getModifiers();
+            if (!Modifier.isPrivate(how)) {
+                CHECK.holds(f + " is public static final", Modifier.toString(how).equals("public static final"));
+                seen.add(f.getType() + " " + f.getName() + " = " + f.get(null));
             }
         }
-        CHECK.holds("rule 1: constants " + seen, seen.equals(Set.of("NONE", "BAD", "NO", "FULL")));
+        CHECK.due("constants of the document's face", due.size(), 4);
+        CHECK.holds("constants " + seen + ", due are " + due, seen.equals(due));
     }
 
-    private static void face() {
-        CHECK.holds("rule 1: public and final", Modifier.isPublic(SweptGates.class.getModifiers())
-            && Modifier.isFinal(SweptGates.class.getModifiers()));
+    private static void constructor() throws IOException {
+        CHECK.holds("the class is public and final", Modifier.toString(SweptGates.class.getModifiers()).equals("public final"));
+        CHECK.holds("the class stands on no other", SweptGates.class.getSuperclass() == Object.class
+            && SweptGates.class.getInterfaces().length == 0);
+        CHECK.holds("no package", SweptGates.class.getPackageName().isEmpty());
         Constructor<?>[] made = SweptGates.class.getDeclaredConstructors();
-        CHECK.holds("rule 1: one public constructor", made.length == 1 && Modifier.isPublic(made[0].getModifiers())
-            && made[0].getParameterCount() == 0);
-        Set<String> due = new TreeSet<>(Set.of(FACE));
+        CHECK.holds("the document's constructor", Document.face().get(1).equals("public SweptGates();"));
+        CHECK.holds("one constructor, public, that takes nothing", made.length == 1
+            && Modifier.isPublic(made[0].getModifiers()) && made[0].getParameterCount() == 0);
+    }
+
+    private static void methods() throws IOException {
+        Set<String> due = new TreeSet<>();
+        for (String told : Document.methods()) {
+            due.add("public " + told.replaceAll("(int|long) \\w+(?=[,)])", "$1").replace(" (", "("));
+        }
         Set<String> seen = new TreeSet<>();
         for (Method m : SweptGates.class.getDeclaredMethods()) {
             if (!Modifier.isPrivate(m.getModifiers())) {
-                CHECK.holds("rule 1: " + m.getName() + " is public", Modifier.isPublic(m.getModifiers()));
-                seen.add(m.getReturnType() + " " + m.getName() + " " + m.getParameterCount());
+                seen.add(Modifier.toString(m.getModifiers()) + " " + m.getReturnType() + " " + m.getName() + "(" + types(m) + ")");
             }
         }
-        CHECK.holds("rule 1: methods " + seen, seen.equals(due));
+        for (String method : due) {
+            CHECK.holds(method + " is not there", seen.contains(method));
+        }
+        for (String method : seen) {
+            CHECK.holds(method + " is not the document's", due.contains(method));
+        }
     }
 
-    private static void classesInside() {
+    private static String types(Method m) {
+        StringBuilder types = new StringBuilder();
+        for (Class<?> type : m.getParameterTypes()) {
+            types.append(types.length() == 0 ? "" : ", ").append(type);
+        }
+        return types.toString();
+    }
+
+    /** LANGUAGE.md, rule 1: "No private method bears the name of a public one", those of classes inside too. */
+    private static void namesOfPrivateMethods() throws IOException {
         Set<String> names = new TreeSet<>();
-        for (String told : FACE) {
-            names.add(told.split(" ")[1]);
+        for (String told : Document.methods()) {
+            names.add(told.replaceAll("\\w+ (\\w+)\\(.*", "$1"));
+        }
+        CHECK.due("names", names.size(), 28);
+        for (Method m : SweptGates.class.getDeclaredMethods()) {
+            CHECK.holds("private " + m, !Modifier.isPrivate(m.getModifiers()) || !names.contains(m.getName()));
         }
         for (Class<?> inside : SweptGates.class.getDeclaredClasses()) {
-            CHECK.holds("rule 2: " + inside + " is static", Modifier.isStatic(inside.getModifiers()));
-            CHECK.holds("rule 11: fields of " + inside, inside.getDeclaredFields().length <= 20);
             for (Method m : inside.getDeclaredMethods()) {
-                CHECK.holds("rule 1: " + m + " bears a public name", !names.contains(m.getName()));
-                CHECK.holds("rule 11: parameters of " + m, m.getParameterCount() <= 7);
+                CHECK.holds(m + " bears a public name", !names.contains(m.getName()));
             }
-        }
-        for (Method m : SweptGates.class.getDeclaredMethods()) {
-            CHECK.holds("rule 1: private " + m, !Modifier.isPrivate(m.getModifiers()) || !names.contains(m.getName()));
         }
     }
 
-    private static void source(String path) throws IOException {
-        String whole = Files.readString(Path.of(path));
-        String code = whole.replaceAll("(?s)/\\*.*?\\*/", " ").replaceAll("//[^\n]*", " ").replaceAll("\"[^\"\n]*\"", "\"\"");
-        String[] words = {"throw", "throws", "try", "catch", "finally", "synchronized", "assert", "import", "package",
-            "protected", "Object", "hashCode", "toString", "native", "transient", "volatile", "double", "float"};
-        for (String word : words) {
-            CHECK.holds("rule 4 or 6: " + word, !Pattern.compile("\\b" + word + "\\b").matcher(code).find());
+    /** The names of parameters can not be seen but in the file; its order is the face's. */
+    private static void asWritten() throws IOException {
+        List<String> program = Files.readAllLines(Document.PROGRAM);
+        int place = 0;
+        for (String told : Document.face()) {
+            String line = "    " + (told.endsWith(");") ? told.replace(");", ") {") : told);
+            int found = program.indexOf(line);
+            CHECK.holds("'" + line.trim() + "' stands in the file, behind the one ahead of it", found > place);
+            place = found;
         }
-        CHECK.holds("rule 2: no lambda, no method reference", !code.contains("->") && !code.contains("::"));
-        CHECK.holds("rule 5: no static block", !Pattern.compile("static\\s*\\{").matcher(code).find());
-        Matcher library = Pattern.compile("\\b(System|Math|Integer|Long|Arrays|String)\\.(\\w+)").matcher(code);
-        Set<String> used = new TreeSet<>();
-        while (library.find()) {
-            used.add(library.group());
-        }
-        CHECK.holds("rule 4: library " + used, Set.of("System.arraycopy", "Math.min", "Math.max").containsAll(used));
-        noneMadeByCalls(code);
     }
 
-    /** All objects and rows are made by constructors: a run's room does not shrink by calls. */
-    private static void noneMadeByCalls(String code) {
-        int made = 0;
-        for (String line : code.split("\n")) {
-            if (line.contains("new ")) {
-                made++;
-                boolean byConstructor = line.matches("\\s*final \\w+\\[] \\w+ = new \\w+\\[[^\\]]*];")
-                    || line.matches("\\s*\\w+(\\[i])? = new (Circuit|Sweep|History|Script)\\(\\);");
-                CHECK.holds("rule 12: " + line.trim(), byConstructor);
+    /** "Ahead of the calls .. the interface says: ---- circuits." */
+    private static void groups() throws IOException {
+        String document = Files.readString(Document.DOCUMENT);
+        String program = Files.readString(Document.PROGRAM);
+        for (String[] group : GROUPS) {
+            StringBuilder calls = new StringBuilder();
+            for (int i = 1; i < group.length; i++) {
+                calls.append(i == 1 ? "`" : ", `").append(group[i]).append('`');
             }
+            CHECK.holds("the document says " + group[0],
+                document.contains("Ahead of the calls " + calls + " the interface says: ---- " + group[0] + "."));
+            CHECK.holds("the file says " + group[0] + " ahead of " + group[1],
+                program.matches("(?s).*// ---- " + group[0] + "\n\n    public int " + group[1] + "\\(.*"));
         }
-        CHECK.holds("rule 12: some are made", made > 0);
     }
 }
